@@ -469,10 +469,10 @@ public final class KingTies {
         }
     }
 
-    /** By whom the line of each person tells its first one. */
+    /** The first one of each person's line, and through which child it is told. */
     private static final class Lines {
-        private final int[] first = new int[MOST_PERSONS];
-        private final int[] through = new int[MOST_PERSONS];
+        final int[] first = new int[MOST_PERSONS];
+        final int[] through = new int[MOST_PERSONS];
 
         void clear() {
             Arrays.fill(first, NONE);
@@ -483,7 +483,7 @@ public final class KingTies {
             return one >= 0 && one < MOST_PERSONS ? first[one] : NONE;
         }
 
-        /** A child tells the first one that its parent's line has by it. */
+        /** A child tells its parent the first one that the parent's line has by it. */
         void tell(Kin kin, int law, int parent, int child, int told) {
             if (!kin.knows(parent)) {
                 return;
@@ -602,24 +602,20 @@ public final class KingTies {
             if (law == LAW_ELDEST_OF_KIN) {
                 return eldestOfKin(ruler);
             }
-            tellLines(ruler, law);
-            int heir = lines.firstOf(ruler);
-            if (heir == NONE) {
-                heir = lines.firstOf(kin.father[ruler]);
-            }
-            return heir == NONE ? lines.firstOf(kin.mother[ruler]) : heir;
-        }
-
-        // A child has a greater number than its parents, so each line is whole before a parent is told of it.
-        private void tellLines(int leftOut, int law) {
             lines.clear();
+            // A child has a greater number than its parents, so each line is whole before a parent is told of it.
             for (int child = kin.persons - 1; child >= 0; child--) {
-                int told = lives(child) && child != leftOut ? child : lines.firstOf(child);
+                int told = lives(child) && child != ruler ? child : lines.firstOf(child);
                 if (told != NONE) {
                     lines.tell(kin, law, kin.mother[child], child, told);
                     lines.tell(kin, law, kin.father[child], child, told);
                 }
             }
+            int heir = lines.firstOf(ruler);
+            if (heir == NONE) {
+                heir = lines.firstOf(kin.father[ruler]);
+            }
+            return heir == NONE ? lines.firstOf(kin.mother[ruler]) : heir;
         }
 
         private int eldestOfKin(int ruler) {
