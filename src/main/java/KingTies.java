@@ -157,7 +157,7 @@ public final class KingTies {
 
     public int rules(int person) throws IndexOutOfBoundsException {
         needPerson(person);
-        ahead.copyFrom(now);
+        ahead.startFrom(now);
         for (int years = 0; years <= MOST_YEARS; years++) {
             if (ahead.lands.numberUnder(person) > 0) {
                 return years;
@@ -170,7 +170,7 @@ public final class KingTies {
     public int foresee(int years, int land) throws IllegalArgumentException, IndexOutOfBoundsException {
         needYears(years);
         needLand(land);
-        ahead.copyFrom(now);
+        ahead.startFrom(now);
         ahead.letPass(years);
         return ahead.lands.rulerOf(land);
     }
@@ -410,16 +410,10 @@ public final class KingTies {
             return sum;
         }
 
-        void copyFrom(Lands from) {
+        void takeRulers(Lands from) {
             number = from.number;
-            System.arraycopy(from.worth, 0, worth, 0, MOST_LANDS);
             System.arraycopy(from.law, 0, law, 0, MOST_LANDS);
             System.arraycopy(from.ruler, 0, ruler, 0, MOST_LANDS);
-            System.arraycopy(from.changes, 0, changes, 0, MOST_LANDS);
-            System.arraycopy(from.kept, 0, kept, 0, MOST_LANDS);
-            for (int land = 0; land < MOST_LANDS; land++) {
-                System.arraycopy(from.past[land], 0, past[land], 0, MOST_KEPT);
-            }
         }
     }
 
@@ -461,11 +455,6 @@ public final class KingTies {
                 }
             }
             return couples;
-        }
-
-        void copyFrom(Ties from) {
-            System.arraycopy(from.spouse, 0, spouse, 0, MOST_PERSONS);
-            System.arraycopy(from.given, 0, given, 0, MOST_PERSONS);
         }
     }
 
@@ -509,11 +498,11 @@ public final class KingTies {
             Arrays.fill(death, NONE);
         }
 
-        void copyFrom(World from) {
+        // Who comes to rule depends on neither ties nor worth nor former rulers, so those are not taken over.
+        void startFrom(World from) {
             year = from.year;
             System.arraycopy(from.death, 0, death, 0, MOST_PERSONS);
-            lands.copyFrom(from.lands);
-            ties.copyFrom(from.ties);
+            lands.takeRulers(from.lands);
         }
 
         // ---- persons

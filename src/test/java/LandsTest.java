@@ -258,6 +258,38 @@ public final class LandsTest {
         Check.same("a brother by 2 steps ahead of an uncle by 3", x.land(0, 3), 5);
         x.die(5);
         Check.same("the uncle", x.land(0, 3), 3);
+        nearerKinIsRegentAheadOfOlderKin();
+    }
+
+    private static void nearerKinIsRegentAheadOfOlderKin() {
+        KingTies x = new KingTies();
+        x.come(true, 16);
+        x.come(false, 16);
+        x.come(false, 17);
+        x.come(true, 17);
+        x.marry(0, 1, -1);
+        x.marry(2, 3, -1);
+        x.bear(2, false);
+        x.bear(1, true);
+        x.pass(16);
+        x.come(true, 16);
+        x.marry(4, 6, -1);
+        x.bear(4, false);
+        x.pass(16);
+        x.marry(5, 7, -1);
+        x.bear(7, true);
+        x.found(9, 0, 8);
+        x.die(7);
+        x.die(5);
+        x.die(4);
+        Check.same("steps to the grandfather", x.related(8, 0), 2);
+        Check.same("steps to an older great-grandmother", x.related(8, 2), 3);
+        Check.same("the grandfather", x.land(0, 3), 0);
+        x.die(0);
+        x.die(1);
+        Check.same("the other grandfather, who is young", x.land(0, 3), 6);
+        x.die(6);
+        Check.same("the great-grandmother", x.land(0, 3), 2);
     }
 
     private static void rulersAreToldBack() {

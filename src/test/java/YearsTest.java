@@ -151,10 +151,12 @@ public final class YearsTest {
         Check.same("nobody in 100 years", x.foresee(100, 0), -1);
         x.found(6, 0, -1);
         Check.same("nobody in a land without a ruler", x.foresee(5, 1), -1);
-        x.setLaw(0, 3);
-        x.annul(0);
-        x.come(true, 0);
-        x.marry(0, 1, -1);
+        x.bear(1, true);
+        Check.same("the elder son by the law 0", x.foresee(60, 0), 2);
+        x.setLaw(0, 2);
+        Check.same("the younger son by the law 2", x.foresee(60, 0), 4);
+        Check.same("the elder son does not come to rule", x.rules(2), -1);
+        x.die(4);
         x.pass(60);
         Check.same("what was foreseen", x.land(0, 2), 2);
     }
