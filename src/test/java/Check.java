@@ -32,6 +32,11 @@ final class Check {
         }
     }
 
+    static void fails(String text) {
+        checks++;
+        tellWrong(text);
+    }
+
     /** The call throws just this exception, and the world is as it was. */
     static void refuses(KingTies world, String name, Class<?> due, Call call) {
         long before = world.digest();
@@ -58,6 +63,10 @@ final class Check {
         } catch (RuntimeException e) {
             return e.getClass().getName();
         }
+    }
+
+    static int wrong() {
+        return wrong;
     }
 
     static void end() {
