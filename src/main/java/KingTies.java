@@ -427,8 +427,17 @@ public final class KingTies {
             Arrays.fill(given, NONE);
         }
 
+        private static boolean fits(int one) {
+            return one >= 0 && one < MOST_PERSONS;
+        }
+
         int spouseOf(int one) {
-            return one >= 0 && one < MOST_PERSONS ? spouse[one] : NONE;
+            return fits(one) ? spouse[one] : NONE;
+        }
+
+        /** The land that this one gave with the marriage that stands. */
+        int givenBy(int one) {
+            return fits(one) ? given[one] : NONE;
         }
 
         void bind(int one, int other) {
@@ -438,7 +447,7 @@ public final class KingTies {
 
         void part(int one) {
             int other = spouseOf(one);
-            if (other == NONE) {
+            if (!fits(one) || !fits(other)) {
                 return;
             }
             spouse[one] = NONE;
@@ -477,7 +486,8 @@ public final class KingTies {
             if (!kin.knows(parent)) {
                 return;
             }
-            if (through[parent] == NONE || kin.isAhead(child, through[parent], law)) {
+            int before = through[parent];
+            if (!kin.knows(before) || kin.isAhead(child, before, law)) {
                 through[parent] = child;
                 first[parent] = told;
             }
@@ -542,9 +552,9 @@ public final class KingTies {
             if (other == NONE) {
                 return NONE;
             }
-            int giver = ties.given[one] == NONE ? other : one;
+            int giver = ties.givenBy(one) == NONE ? other : one;
             int taker = giver == one ? other : one;
-            int land = ties.given[giver];
+            int land = ties.givenBy(giver);
             ties.part(one);
             if (lands.rulerOf(land) != taker) {
                 return NONE;
@@ -553,7 +563,7 @@ public final class KingTies {
             return land;
         }
 
-        /** This one dies; how many lands are left to heirs. */
+        /** This one dies; how many lands are left, to heirs or to nobody. */
         int bury(int one) {
             int left = 0;
             death[one] = year;
